@@ -19,12 +19,10 @@ public final class PointMaker {
     private static final int MAX_AGREE = 50, SEED_TIMES = 1103515245, SEED_MORE = 12345, SEED_VALUES = 12;
     private static final int NULL_FAULT = 1, INDEX_FAULT = 2, CAST_FAULT = 3, SIZE_FAULT = 4;
 
-    private final Tape tape;
     private final Reader reader;
     private final Program program;
     private final Program[] images;
     private final boolean[] kept;
-    private final Division division;
     private final Points points;
     private final Letters pointLetters;
     private final Letters stepLetters;
@@ -40,16 +38,14 @@ public final class PointMaker {
     private boolean stale;
 
     public PointMaker() {
-        tape = new Tape();
-        reader = new Reader(tape);
+        reader = new Reader();
         program = new Program();
         images = new Program[IMAGES];
         for (int k = 0; k < IMAGES; k++) {
             images[k] = new Program();
         }
         kept = new boolean[IMAGES];
-        division = new Division();
-        points = new Points(program, division);
+        points = new Points();
         pointLetters = new Letters();
         stepLetters = new Letters();
         latest = new Run();
@@ -71,21 +67,21 @@ public final class PointMaker {
         if (c < 0 || c > 127) {
             return BAD;
         }
-        return tape.append(c) ? tape.length : FULL;
+        return reader.tape.append(c) ? reader.tape.length : FULL;
     }
 
     public int end(int n) {
-        int had = tape.length;
+        int had = reader.tape.length;
         if (n < 0 || n > had) {
             return BAD;
         }
-        tape.length = n;
+        reader.tape.length = n;
         return had;
     }
 
     public int text() {
         boolean taken = reader.takesTape();
-        tape.length = 0;
+        reader.tape.length = 0;
         if (!taken) {
             return -10 - reader.place;
         }
@@ -113,7 +109,7 @@ public final class PointMaker {
             case 1:
                 return program.web.steps;
             case 2:
-                return division.unknown;
+                return points.division.unknown;
             case 3:
                 return program.givenBits();
             case 4:
@@ -136,7 +132,7 @@ public final class PointMaker {
         }
         if (what == 6) {
             refresh();
-            return division.ahead[b];
+            return points.division.aheadAt(b);
         }
         return program.web.placePart(b, what);
     }
@@ -192,7 +188,7 @@ public final class PointMaker {
         if (!isPoint(k) || !isVariable(v)) {
             return BAD;
         }
-        return hasBit(division.unknown, v) ? NONE : points.values[k * VARIABLES + v];
+        return hasBit(points.division.unknown, v) ? NONE : points.values[k * VARIABLES + v];
     }
 
     public int left(int k, int i, int what) {
@@ -218,8 +214,7 @@ public final class PointMaker {
             return BAD;
         }
         write(k);
-        stepLetters.length = 0;
-        stepLetters.addStep(points.web, points.web.first[m] + j);
+        stepLetters.writeStep(points.web, points.web.first[m] + j);
         return pointLetters.find(stepLetters, i);
     }
 
@@ -245,7 +240,7 @@ public final class PointMaker {
         if (points.web.places == 0) {
             return NONE;
         }
-        latest.go(points.web, starts, program.given, division.unknown);
+        latest.go(points.web, starts, program.given, points.division.unknown);
         hasRun = true;
         return latest.stopped ? latest.steps : STATE;
     }
@@ -289,7 +284,7 @@ public final class PointMaker {
                 drawn[v] = ((turn >>> 16) & 0x7fff) % SEED_VALUES;
             }
             whole.go(program.web, drawn, program.given, allBits());
-            rest.go(points.web, drawn, program.given, division.unknown);
+            rest.go(points.web, drawn, program.given, points.division.unknown);
             sum += compareRuns(what);
         }
         return sum;
@@ -412,7 +407,7 @@ public final class PointMaker {
             case 0:
                 return (kept[0] ? 1 : 0) + (kept[1] ? 1 : 0);
             case 1:
-                return tape.length;
+                return reader.tape.length;
             case 2:
                 return sheets[0].lane == NONE ? NONE : sheets[0].length;
             case 3:
@@ -429,8 +424,7 @@ public final class PointMaker {
     /** What follows from the program is found anew only when a call asks for it behind a change. */
     private void refresh() {
         if (stale) {
-            division.find(program);
-            points.find();
+            points.find(program);
             writtenPoint = NONE;
             stale = false;
         }
@@ -439,8 +433,7 @@ public final class PointMaker {
     /** SHOWN is asked byte by byte, so the POINT that was written last stays written. */
     private void write(int k) {
         if (writtenPoint != k) {
-            pointLetters.length = 0;
-            pointLetters.addPoint(points.web, k);
+            pointLetters.writePoint(points.web, k);
             writtenPoint = k;
         }
     }
@@ -448,7 +441,8 @@ public final class PointMaker {
     private int lettersOfAll() {
         int sum = 0;
         for (int k = 0; k < points.web.places; k++) {
-            write(k);
+            pointLetters.writePoint(points.web, k);
+            writtenPoint = k;
             sum += pointLetters.length;
         }
         return sum;
@@ -465,7 +459,7 @@ public final class PointMaker {
             return 0;
         }
         for (int v = 0; v < VARIABLES; v++) {
-            if (hasBit(division.unknown, v) && whole.values[v] != rest.values[v]) {
+            if (hasBit(points.division.unknown, v) && whole.values[v] != rest.values[v]) {
                 return 0;
             }
         }
@@ -536,8 +530,7 @@ public final class PointMaker {
     }
 
     private static int bitOf(int operand) {
-        int v = variableOf(operand);
-        return v < 0 ? 0 : 1 << v;
+        return operand < FIRST_VARIABLE ? 0 : 1 << operand - FIRST_VARIABLE;
     }
 
     private static int valueOf(int operand, int[] values) {
@@ -698,16 +691,15 @@ public final class PointMaker {
             }
         }
 
-        boolean isPart(int i, int what) {
-            return i >= 0 && i < steps && what >= 0 && what < STEP_PARTS;
-        }
-
         int stepPart(int i, int what) {
-            return isPart(i, what) ? parts[i * STEP_PARTS + what] : BAD;
+            if (i < 0 || i >= steps || what < 0 || what >= STEP_PARTS) {
+                return BAD;
+            }
+            return parts[i * STEP_PARTS + what];
         }
 
         void setStepPart(int i, int what, int v) {
-            if (isPart(i, what)) {
+            if (i >= 0 && i < steps && what >= 0 && what < STEP_PARTS) {
                 parts[i * STEP_PARTS + what] = v;
             }
         }
@@ -767,9 +759,9 @@ public final class PointMaker {
     /** Reads THE TAPE into a draft, a TOKEN at a time; the first FAULT that is met ends it. */
     private static final class Reader {
         private static final int NO_TOKEN = 1, MISPLACED = 2, OUT_OF_BOUNDS = 3, TOO_MANY = 5, NO_BLOCK = 6;
-        private static final int FINISH = 0, NAME = 1, NUMBER = 2, SEMICOLON = 3;
+        private static final int FINISH = 0, NAME = 1, NUMBER = 2, SEMICOLON = 3, OTHER = 4;
 
-        final Tape tape;
+        final Tape tape = new Tape();
         final Web draft = new Web(MAX_BLOCKS, MAX_STEPS);
         int fault;
         int place;
@@ -777,10 +769,6 @@ public final class PointMaker {
         private int start;
         private int next;
         private int number;
-
-        Reader(Tape tape) {
-            this.tape = tape;
-        }
 
         boolean takesTape() {
             draft.clear();
@@ -809,45 +797,33 @@ public final class PointMaker {
                 next++;
             }
             start = next;
-            int c = tape.at(start);
-            if (start >= tape.length) {
-                sort = FINISH;
-                return true;
+            sort = sortOf(tape.at(start));
+            if (sort == OTHER) {
+                return refuse(NO_TOKEN, start);
             }
-            if (isLetter(c)) {
-                sort = NAME;
-                for (int i = 0; i < TAPE_BYTES && isLetter(tape.at(next)); i++) {
-                    next++;
-                }
-                return true;
-            }
-            if (c == ';') {
-                sort = SEMICOLON;
+            if (sort == SEMICOLON) {
                 next++;
-                return true;
             }
-            return isFigure(c) ? advanceNumber() : refuse(NO_TOKEN, start);
-        }
-
-        private boolean advanceNumber() {
-            sort = NUMBER;
+            boolean isLong = sort == NAME || sort == NUMBER;
             number = 0;
-            for (int i = 0; i < TAPE_BYTES && isFigure(tape.at(next)); i++) {
-                if (i == 2) {
-                    return refuse(NO_TOKEN, start);
-                }
+            for (int i = 0; i < TAPE_BYTES && isLong && sortOf(tape.at(next)) == sort; i++) {
                 number = number * 10 + tape.at(next) - '0';
                 next++;
             }
-            return true;
+            return sort != NUMBER || next - start <= 2 || refuse(NO_TOKEN, start);
         }
 
-        private static boolean isLetter(int c) {
-            return c >= 'a' && c <= 'z';
-        }
-
-        private static boolean isFigure(int c) {
-            return c >= '0' && c <= '9';
+        private static int sortOf(int c) {
+            if (c == NONE) {
+                return FINISH;
+            }
+            if (c >= 'a' && c <= 'z') {
+                return NAME;
+            }
+            if (c >= '0' && c <= '9') {
+                return NUMBER;
+            }
+            return c == ';' ? SEMICOLON : OTHER;
         }
 
         private boolean isWord(String word) {
@@ -916,22 +892,15 @@ public final class PointMaker {
                 return false;
             }
             for (int i = 0; i <= MAX_STEPS && (isWord("set") || isWord("say")); i++) {
-                if (!takesStep()) {
+                if (draft.steps >= MAX_STEPS) {
+                    return refuse(TOO_MANY, start);
+                }
+                boolean isSet = isWord("set");
+                if (!advance() || !(isSet ? takesSet() : takesSay()) || !takesSemicolon()) {
                     return false;
                 }
             }
             return takesEnd() && takesSemicolon();
-        }
-
-        private boolean takesStep() {
-            if (draft.steps >= MAX_STEPS) {
-                return refuse(TOO_MANY, start);
-            }
-            boolean isSet = isWord("set");
-            if (!advance()) {
-                return false;
-            }
-            return (isSet ? takesSet() : takesSay()) && takesSemicolon();
         }
 
         private boolean takesSet() {
@@ -1071,8 +1040,7 @@ public final class PointMaker {
 
     /** The POINTS, found by order, with what is LEFT of each. */
     private static final class Points {
-        final Program program;
-        final Division division;
+        final Division division = new Division();
         final Web web = new Web(MAX_POINTS, MAX_POINTS * MAX_STEPS);
         final int[] blockOf = new int[MAX_POINTS];
         final int[] leader = new int[MAX_POINTS];
@@ -1081,12 +1049,8 @@ public final class PointMaker {
         private final int[] now = new int[VARIABLES];
         private final int[] sought = new int[VARIABLES];
 
-        Points(Program program, Division division) {
-            this.program = program;
-            this.division = division;
-        }
-
-        void find() {
+        void find(Program program) {
+            division.find(program);
             web.clear();
             tooMany = false;
             if (program.web.places == 0) {
@@ -1095,22 +1059,18 @@ public final class PointMaker {
             for (int v = 0; v < VARIABLES; v++) {
                 now[v] = Math.max(0, program.given[v]);
             }
-            meet(0, NONE);
+            meet(program, 0, NONE);
             for (int k = 0; k < MAX_POINTS && k < web.places && !tooMany; k++) {
-                specialise(k);
+                specialise(program, k);
             }
             if (tooMany) {
                 web.clear();
             }
         }
 
-        private boolean isUnknown(int v) {
-            return hasBit(division.unknown, v);
-        }
-
         /** The POINT of a BLOCK with the VALUES of now, found again or new; NONE if it would be one too many. */
-        private int meet(int b, int from) {
-            seek(b);
+        private int meet(Program program, int b, int from) {
+            seek(b, program.wise);
             int k = findAlike(b);
             if (k >= 0) {
                 // None leads to POINT 0 when it is made; the first that does is told here.
@@ -1132,33 +1092,28 @@ public final class PointMaker {
             return k;
         }
 
-        private void seek(int b) {
-            int told = program.wise == 0 ? allBits() : division.aheadAt(b);
-            told &= ~division.unknown;
+        private void seek(int b, int wisdom) {
+            int apart = wisdom == 0 ? allBits() : division.aheadAt(b);
+            apart &= ~division.unknown;
             for (int v = 0; v < VARIABLES; v++) {
-                sought[v] = hasBit(told, v) ? now[v] : 0;
+                sought[v] = hasBit(apart, v) ? now[v] : 0;
             }
         }
 
         private int findAlike(int b) {
             for (int k = 0; k < web.places; k++) {
-                if (blockOf[k] == b && holdsSought(k)) {
+                boolean alike = blockOf[k] == b;
+                for (int v = 0; v < VARIABLES && alike; v++) {
+                    alike = values[k * VARIABLES + v] == sought[v];
+                }
+                if (alike) {
                     return k;
                 }
             }
             return NONE;
         }
 
-        private boolean holdsSought(int k) {
-            for (int v = 0; v < VARIABLES; v++) {
-                if (values[k * VARIABLES + v] != sought[v]) {
-                    return false;
-                }
-            }
-            return true;
-        }
-
-        private void specialise(int k) {
+        private void specialise(Program program, int k) {
             for (int v = 0; v < VARIABLES; v++) {
                 now[v] = values[k * VARIABLES + v];
             }
@@ -1169,18 +1124,18 @@ public final class PointMaker {
             web.startSteps(k);
             int behind = program.web.first[b] + program.web.many[b];
             for (int i = program.web.first[b]; i < behind; i++) {
-                doOrLeave(k, i);
+                doOrLeave(program.web, k, i);
             }
-            leadOn(k, b);
+            leadOn(program, k, b);
         }
 
-        private void doOrLeave(int k, int i) {
-            int kind = program.web.stepPart(i, KIND);
-            int target = program.web.stepPart(i, TARGET);
-            int op = program.web.stepPart(i, OP);
-            int former = asKnown(program.web.stepPart(i, FORMER));
-            int latter = asKnown(program.web.stepPart(i, LATTER));
-            if (kind == SET && isVariable(target) && !isUnknown(target)) {
+        private void doOrLeave(Web from, int k, int i) {
+            int kind = from.stepPart(i, KIND);
+            int target = from.stepPart(i, TARGET);
+            int op = from.stepPart(i, OP);
+            int former = asKnown(from.stepPart(i, FORMER));
+            int latter = asKnown(from.stepPart(i, LATTER));
+            if (kind == SET && isVariable(target) && !hasBit(division.unknown, target)) {
                 now[target] = result(op, former, latter);
             } else {
                 web.append(k, kind, target, former, op, latter);
@@ -1190,10 +1145,10 @@ public final class PointMaker {
         /** An OPERAND as it is LEFT; that of a set whose TARGET is KNOWN is always a NUMBER then. */
         private int asKnown(int operand) {
             int v = variableOf(operand);
-            return v < 0 || isUnknown(v) ? operand : now[v];
+            return v < 0 || hasBit(division.unknown, v) ? operand : now[v];
         }
 
-        private void leadOn(int k, int b) {
+        private void leadOn(Program program, int k, int b) {
             int how = program.web.ending[b];
             int toOne = program.web.one[b];
             int toTwo = program.web.two[b];
@@ -1201,13 +1156,13 @@ public final class PointMaker {
             if (how == STOP) {
                 web.close(k, STOP, NONE, NONE, NONE);
             } else if (how == GOTO || !isVariable(variable)) {
-                web.close(k, GOTO, meet(toOne, k), NONE, NONE);
-            } else if (isUnknown(variable)) {
-                int pointOne = meet(toOne, k);
-                int pointTwo = meet(toTwo, k);
+                web.close(k, GOTO, meet(program, toOne, k), NONE, NONE);
+            } else if (hasBit(division.unknown, variable)) {
+                int pointOne = meet(program, toOne, k);
+                int pointTwo = meet(program, toTwo, k);
                 web.close(k, IF, pointOne, pointTwo, variable);
             } else {
-                web.close(k, GOTO, meet(now[variable] != 0 ? toOne : toTwo, k), NONE, NONE);
+                web.close(k, GOTO, meet(program, now[variable] != 0 ? toOne : toTwo, k), NONE, NONE);
             }
         }
     }
@@ -1256,7 +1211,8 @@ public final class PointMaker {
             addNumber(k);
         }
 
-        void addPoint(Web web, int k) {
+        void writePoint(Web web, int k) {
+            length = 0;
             if (!web.isPlace(k)) {
                 return;
             }
@@ -1270,7 +1226,12 @@ public final class PointMaker {
             addEnding(web, k);
         }
 
-        void addStep(Web web, int i) {
+        void writeStep(Web web, int i) {
+            length = 0;
+            addStep(web, i);
+        }
+
+        private void addStep(Web web, int i) {
             if (web.stepPart(i, KIND) == SAY) {
                 addWord("say");
                 addOperand(web.stepPart(i, FORMER));
