@@ -169,6 +169,8 @@ public final class ProgramTest {
                 Check.due("step(" + i + ", " + w + ")", x.step(i, w), due[i][w]);
             }
         }
+        Check.due("alter(0, 1, 0)", x.alter(0, 1, 0), 5);
+        Check.due("alter(0, 1, 5)", x.alter(0, 1, 5), 0);
         Check.due("block(0, 6)", x.block(0, 6), 33);
         x.give(5, 3);
         Check.due("rule(2)", x.rule(2), 31);
@@ -237,6 +239,10 @@ public final class ProgramTest {
         Check.due("back(1)", x.back(1), 2);
         Check.due("step(0, 2)", x.step(0, 2), 50);
         Check.due("rule(3)", x.rule(3), 8);
+        Check.due("rule(2)", x.rule(2), 55);
+        Check.due("back(0)", x.back(0), 2);
+        Check.due("rule(2)", x.rule(2), 62);
+        Check.due("back(1)", x.back(1), 2);
         // An IMAGE is a copy: what is changed behind keep() does not reach it.
         x.alter(0, 2, 51);
         Check.due("back(1)", x.back(1), 2);

@@ -75,6 +75,8 @@ public final class TextTest {
             + "block;stop;block;stop;", 8);
         Check.due("07", c.x.block(1, 3), 7);
         // Blanks are needed only where two TOKENS would be one.
+        c.taken("block;say 0;stop;", 1);
+        Check.due("say 0", c.x.step(0, 2), 0);
         c.taken("block;set a1plus 2;say99;if f0 00;", 1);
         Check.due("step(0, 2)", c.x.step(0, 2), 1);
         Check.due("step(0, 4)", c.x.step(0, 4), 2);
@@ -100,6 +102,7 @@ public final class TextTest {
         Check c = new Check();
         c.refused("blocks;stop;", 0, 2);
         c.refused("bloc", 0, 2);
+        c.refused("z", 0, 2);
         c.refused("1", 0, 2);
         c.refused(";", 0, 2);
         c.refused("stop;", 0, 2);
