@@ -379,10 +379,10 @@ public final class PointMaker {
         Sheet from = sheets[k];
         // The pairs are tried on a copy, because one that begin() refuses undoes those ahead of it.
         System.arraycopy(starts, 0, drawn, 0, VARIABLES);
-        int found = from.faultAs(lane);
+        int found = 0;
         int came = 0;
         for (int i = 0; i < n && found == 0; i++) {
-            found = from.faultAtPair(f + 2 * i);
+            found = from.faultOfPair(lane, f + 2 * i);
             if (found == 0) {
                 int v = from.cellAt(f + 2 * i);
                 int x = from.cellAt(f + 2 * i + 1);
@@ -1357,11 +1357,6 @@ public final class PointMaker {
             }
         }
 
-        /** What the machine finds at a cast: nothing passes as of any lane. */
-        int faultAs(int asLane) {
-            return lane == NONE || lane == asLane ? 0 : CAST_FAULT;
-        }
-
         int faultAt(int i) {
             if (lane == NONE) {
                 return NULL_FAULT;
@@ -1369,7 +1364,12 @@ public final class PointMaker {
             return i < 0 || i >= length ? INDEX_FAULT : 0;
         }
 
-        int faultAtPair(int i) {
+        /** The cast is a part of each pair's reading: where no pair is read, no FAULT is found. */
+        int faultOfPair(int asLane, int i) {
+            // Nothing passes the cast to any lane, as null does.
+            if (lane != NONE && lane != asLane) {
+                return CAST_FAULT;
+            }
             int found = faultAt(i);
             return found != 0 ? found : faultAt(i + 1);
         }

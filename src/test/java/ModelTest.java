@@ -673,8 +673,9 @@ public final class ModelTest {
             int came = 0;
             int found = 0;
             try {
-                Object row = lane == 0 ? (Object) (byte[]) sheets[k] : lane == 1 ? (short[]) sheets[k] : (int[]) sheets[k];
                 for (int i = 0; i < n; i++) {
+                    Object row = lane == 0 ? (Object) (byte[]) sheets[k] : lane == 1 ? (short[]) sheets[k]
+                        : (int[]) sheets[k];
                     int v = cell(row, f + 2 * i);
                     if (begin(v, cell(row, f + 2 * i + 1)) < 0) {
                         starts = was;

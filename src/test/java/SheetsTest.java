@@ -6,6 +6,7 @@ public final class SheetsTest {
         read();
         refusedPairs();
         torn();
+        readNone();
         count();
         Check.finish();
     }
@@ -146,6 +147,33 @@ public final class SheetsTest {
         Check.due("torn()", x.torn(), 3);
         Check.due("read", x.read(1, 0, 0, 1), 1);
         Check.due("torn()", x.torn(), 0);
+    }
+
+    /** With n 0 nothing is read, so that the machine finds no FAULT, whatever the SHEET and the CELL are. */
+    private static void readNone() {
+        PointMaker x = rows(1, 0, 3);
+        x.sheet(0, 2, 0);
+        for (int k = 0; k < 3; k++) {
+            for (int lane = 0; lane < 3; lane++) {
+                for (int f : new int[] {0, 1, 2, -1, 40, Integer.MAX_VALUE, Integer.MIN_VALUE}) {
+                    String call = "read(" + k + ", " + lane + ", " + f + ", 0)";
+                    x.read(1, 0, 0, 1);
+                    Check.due("torn() ahead of " + call, x.torn(), 3);
+                    Check.due(call, x.read(k, lane, f, 0), 0);
+                    Check.due("torn() behind " + call, x.torn(), 0);
+                }
+            }
+        }
+        Check.due("none came", x.count(3), 0);
+        // From one pair on the SHEET is taken as of the lane, ahead of its CELLS.
+        Check.due("another lane, no CELLS", x.read(0, 0, 0, 1), 0);
+        Check.due("torn()", x.torn(), 3);
+        Check.due("another lane, no such CELL", x.read(1, 0, -1, 1), 0);
+        Check.due("torn()", x.torn(), 3);
+        // What is BAD stays BAD, and leaves the FAULT.
+        Check.due("read(4, 0, 0, 0)", x.read(4, 0, 0, 0), -1);
+        Check.due("read(0, 3, 0, 0)", x.read(0, 3, 0, 0), -1);
+        Check.due("torn()", x.torn(), 3);
     }
 
     private static void count() {
