@@ -2,23 +2,32 @@
 final class Check {
     private static int wrong = 0;
     private static int asked = 0;
+    private static String kept = "";
 
     PointMaker x = new PointMaker();
+
+    /** The words of the document that the answers from here on keep; SentencesTest reads these calls. */
+    static void sentence(String words) {
+        kept = words;
+    }
 
     static void due(String call, long got, long want) {
         asked++;
         if (got != want) {
-            wrong++;
-            System.out.println(call + " answered " + got + ", due is " + want);
+            tellWrong(call + " answered " + got + ", due is " + want);
         }
     }
 
     static void due(String call, String got, String want) {
         asked++;
         if (!got.equals(want)) {
-            wrong++;
-            System.out.println(call + " answered '" + got + "', due is '" + want + "'");
+            tellWrong(call + " answered '" + got + "', due is '" + want + "'");
         }
+    }
+
+    private static void tellWrong(String what) {
+        wrong++;
+        System.out.println(what + (kept.isEmpty() ? "" : " (" + kept + ")"));
     }
 
     /** Behind the last test of a file. */
@@ -51,6 +60,21 @@ final class Check {
         due("text of '" + s + "'", text(s), blocks);
         due("fault of '" + s + "'", x.fault(), 0);
         due("bytes behind '" + s + "'", x.count(1), 0);
+    }
+
+    /** As refused(), on a new object: one object is for 512 calls. */
+    static void refuses(String s, int place, int fault) {
+        Check c = new Check();
+        c.refused(s, place, fault);
+        due("BLOCKS behind '" + s + "'", c.x.rule(0), 0);
+    }
+
+    /** As taken(), on a new object. */
+    static PointMaker takes(String s, int blocks) {
+        Check c = new Check();
+        c.taken(s, blocks);
+        due("BLOCKS behind '" + s + "'", c.x.rule(0), blocks);
+        return c.x;
     }
 
     static Check of(String s) {
