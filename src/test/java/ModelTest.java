@@ -905,9 +905,15 @@ public final class ModelTest {
             PointMaker x = new PointMaker();
             Model m = new Model();
             StringBuilder told = new StringBuilder();
+            int fed = 0;
             for (int i = 0; i < 80; i++) {
                 if (i % 40 == 0) {
                     String s = someText();
+                    fed += s.length();
+                    // An object is for 512 calls: 80 by chance, those of two texts, and what feeds them.
+                    if (fed > 512 - 80 - 4) {
+                        break;
+                    }
                     for (char c : s.toCharArray()) {
                         Check.due("feed", x.feed(c), m.call("feed", new int[] {c}));
                     }

@@ -158,19 +158,13 @@ public final class PointsTest {
         c.x.give(0, 12);
         Check.due("p9", c.shown(9), "p9: set b 99 more f; goto p10;");
         Check.due("p12", c.shown(12), "p12: say 0; say b; if f p13 p12;");
-        // The longest: 24 sets of two figures each.
-        c = Check.of("block;" + "set a b plus b;".repeat(20) + "goto 0;");
-        for (int i = 0; i < 20; i++) {
+        // Long ones; the longest is in PointEdgeTest.
+        c = Check.of("block;" + "set a1;".repeat(10) + "goto 0;");
+        for (int i = 0; i < 10; i++) {
             c.x.alter(i, 2, 99);
             c.x.alter(i, 4, 98);
         }
-        Check.due("long", c.shown(0), "p0:" + " set a 99 plus 98;".repeat(20) + " goto p0;");
-        c = Check.of("block;" + "set a1;".repeat(24) + "if a 0 0;");
-        for (int i = 0; i < 24; i++) {
-            c.x.alter(i, 2, 99);
-            c.x.alter(i, 4, 98);
-        }
-        Check.due("longest", c.shown(0), "p0:" + " set a 99 plus 98;".repeat(24) + " if a p0 p0;");
+        Check.due("long", c.shown(0), "p0:" + " set a 99 plus 98;".repeat(10) + " goto p0;");
     }
 
     private static void where() {

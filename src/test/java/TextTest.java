@@ -85,103 +85,97 @@ public final class TextTest {
     }
 
     private static void noToken() {
-        Check c = new Check();
-        c.refused("A", 0, 1);
-        c.refused("  block;\tstop;", 8, 1);
-        c.refused("block;say 100;stop;", 10, 1);
-        c.refused("block;say 001;stop;", 10, 1);
-        c.refused("block;say 1:", 11, 1);
-        c.refused("123", 0, 1);
-        c.refused("block;stop;" + (char) 0, 11, 1);
-        c.refused("block;set a{", 11, 1);
-        c.refused("block;set a`", 11, 1);
-        c.refused("block;set a/", 11, 1);
+        Check.refuses("A", 0, 1);
+        Check.refuses("  block;\tstop;", 8, 1);
+        Check.refuses("block;say 100;stop;", 10, 1);
+        Check.refuses("block;say 001;stop;", 10, 1);
+        Check.refuses("block;say 1:", 11, 1);
+        Check.refuses("123", 0, 1);
+        Check.refuses("block;stop;" + (char) 0, 11, 1);
+        Check.refuses("block;set a{", 11, 1);
+        Check.refuses("block;set a`", 11, 1);
+        Check.refuses("block;set a/", 11, 1);
     }
 
     private static void misplaced() {
-        Check c = new Check();
-        c.refused("blocks;stop;", 0, 2);
-        c.refused("bloc", 0, 2);
-        c.refused("z", 0, 2);
-        c.refused("1", 0, 2);
-        c.refused(";", 0, 2);
-        c.refused("stop;", 0, 2);
-        c.refused("block", 5, 2);
-        c.refused("block  ", 7, 2);
-        c.refused("block stop;", 6, 2);
-        c.refused("block;", 6, 2);
-        c.refused("block;block;stop;", 6, 2);
-        c.refused("block;;", 6, 2);
-        c.refused("block;5;", 6, 2);
-        c.refused("block;set", 9, 2);
-        c.refused("block;set 1 2;stop;", 10, 2);
-        c.refused("block;set ab 2;stop;", 10, 2);
-        c.refused("block;set g 2;stop;", 10, 2);
-        c.refused("block;set a g;stop;", 12, 2);
-        c.refused("block;set a plus 1;stop;", 12, 2);
-        c.refused("block;set a b c;stop;", 14, 2);
-        c.refused("block;set a b plus;stop;", 18, 2);
-        c.refused("block;set a b plus plus;stop;", 19, 2);
-        c.refused("block;set a b plus 1 less 2;stop;", 21, 2);
-        c.refused("block;say g;stop;", 10, 2);
-        c.refused("block;say a b;stop;", 12, 2);
-        c.refused("block;goto a;", 11, 2);
-        c.refused("block;goto;", 10, 2);
-        c.refused("block;goto 0 0;", 13, 2);
-        c.refused("block;if 0 0 0;", 9, 2);
-        c.refused("block;if a a 0;", 11, 2);
-        c.refused("block;if a 0;", 12, 2);
-        c.refused("block;if a 0 0 0;", 15, 2);
-        c.refused("block;stop", 10, 2);
-        c.refused("block;stop;;", 11, 2);
-        c.refused("block;stop;stop;", 11, 2);
-        c.refused("block;stop;say 1;", 11, 2);
+        Check.refuses("blocks;stop;", 0, 2);
+        Check.refuses("bloc", 0, 2);
+        Check.refuses("z", 0, 2);
+        Check.refuses("1", 0, 2);
+        Check.refuses(";", 0, 2);
+        Check.refuses("stop;", 0, 2);
+        Check.refuses("block", 5, 2);
+        Check.refuses("block  ", 7, 2);
+        Check.refuses("block stop;", 6, 2);
+        Check.refuses("block;", 6, 2);
+        Check.refuses("block;block;stop;", 6, 2);
+        Check.refuses("block;;", 6, 2);
+        Check.refuses("block;5;", 6, 2);
+        Check.refuses("block;set", 9, 2);
+        Check.refuses("block;set 1 2;stop;", 10, 2);
+        Check.refuses("block;set ab 2;stop;", 10, 2);
+        Check.refuses("block;set g 2;stop;", 10, 2);
+        Check.refuses("block;set a g;stop;", 12, 2);
+        Check.refuses("block;set a plus 1;stop;", 12, 2);
+        Check.refuses("block;set a b c;stop;", 14, 2);
+        Check.refuses("block;set a b plus;stop;", 18, 2);
+        Check.refuses("block;set a b plus plus;stop;", 19, 2);
+        Check.refuses("block;set a b plus 1 less 2;stop;", 21, 2);
+        Check.refuses("block;say g;stop;", 10, 2);
+        Check.refuses("block;say a b;stop;", 12, 2);
+        Check.refuses("block;goto a;", 11, 2);
+        Check.refuses("block;goto;", 10, 2);
+        Check.refuses("block;goto 0 0;", 13, 2);
+        Check.refuses("block;if 0 0 0;", 9, 2);
+        Check.refuses("block;if a a 0;", 11, 2);
+        Check.refuses("block;if a 0;", 12, 2);
+        Check.refuses("block;if a 0 0 0;", 15, 2);
+        Check.refuses("block;stop", 10, 2);
+        Check.refuses("block;stop;;", 11, 2);
+        Check.refuses("block;stop;stop;", 11, 2);
+        Check.refuses("block;stop;say 1;", 11, 2);
     }
 
     private static void outOfBounds() {
-        Check c = new Check();
-        c.refused("block;goto 8;", 11, 3);
-        c.refused("block;goto 99;", 11, 3);
-        c.refused("block;if a 8 0;", 11, 3);
-        c.refused("block;if a 0 10;", 13, 3);
+        Check.refuses("block;goto 8;", 11, 3);
+        Check.refuses("block;goto 99;", 11, 3);
+        Check.refuses("block;if a 8 0;", 11, 3);
+        Check.refuses("block;if a 0 10;", 13, 3);
     }
 
     private static void tooMany() {
-        Check c = new Check();
         String eight = "block;stop;".repeat(8);
-        c.taken(eight, 8);
-        c.refused(eight + "block;stop;", 88, 5);
-        c.refused(eight + "  block", 90, 5);
-        c.refused(eight + "blocks", 88, 2);
+        Check.takes(eight, 8);
+        Check.refuses(eight + "block;stop;", 88, 5);
+        Check.refuses(eight + "  block", 90, 5);
+        Check.refuses(eight + "blocks", 88, 2);
         String steps = "say 1;".repeat(24);
-        c.taken("block;" + steps + "stop;", 1);
-        Check.due("rule(1)", c.x.rule(1), 24);
-        c.refused("block;" + steps + "say 1;stop;", 150, 5);
-        c.refused("block;" + steps + "set $", 150, 5);
+        PointMaker x = Check.takes("block;" + steps + "stop;", 1);
+        Check.due("rule(1)", x.rule(1), 24);
+        Check.refuses("block;" + steps + "say 1;stop;", 150, 5);
+        Check.refuses("block;" + steps + "set $", 150, 5);
         // The 24 are those of all BLOCKS.
-        c.refused("block;say 1;stop;block;" + steps + "stop;", 23 + 23 * 6, 5);
-        c.taken("block;say 1;stop;block;" + "say 1;".repeat(23) + "stop;", 2);
+        Check.refuses("block;say 1;stop;block;" + steps + "stop;", 23 + 23 * 6, 5);
+        Check.takes("block;say 1;stop;block;" + "say 1;".repeat(23) + "stop;", 2);
     }
 
     private static void noBlock() {
-        Check c = new Check();
-        c.refused("block;goto 1;", 13, 6);
-        c.refused("block;goto 1;  ", 15, 6);
-        c.refused("block;if a 0 1;", 15, 6);
-        c.refused("block;if a 1 0;", 15, 6);
-        c.refused("block;goto 7;block;stop;", 24, 6);
-        c.taken("block;goto 1;block;goto 0;", 2);
+        Check.refuses("block;goto 1;", 13, 6);
+        Check.refuses("block;goto 1;  ", 15, 6);
+        Check.refuses("block;if a 0 1;", 15, 6);
+        Check.refuses("block;if a 1 0;", 15, 6);
+        Check.refuses("block;goto 7;block;stop;", 24, 6);
+        Check.takes("block;goto 1;block;goto 0;", 2);
     }
 
     private static void firstMet() {
-        Check c = new Check();
         // A TOKEN is read when the one before has been taken.
-        c.refused("block;goto 8$", 11, 3);
-        c.refused("block;set g$", 10, 2);
-        c.refused("block;say a$", 11, 1);
-        c.refused("block;goto 1;$", 13, 1);
-        c.refused("block;goto 1;x", 13, 2);
-        c.refused("block;set a 1 100", 14, 1);
+        Check.refuses("block;goto 8$", 11, 3);
+        Check.refuses("block;set g$", 10, 2);
+        Check.refuses("block;say a$", 11, 1);
+        Check.refuses("block;goto 1;$", 13, 1);
+        Check.refuses("block;goto 1;x", 13, 2);
+        Check.refuses("block;set a 1 100", 14, 1);
     }
 
     private static void tellsAll() {
