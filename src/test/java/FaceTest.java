@@ -23,6 +23,7 @@ public final class FaceTest {
         methods();
         nested();
         source();
+        neverThrows();
         Check.finish();
     }
 
@@ -99,5 +100,53 @@ public final class FaceTest {
                 Check.due("sign " + (int) s.charAt(i), 1, 0);
             }
         }
+    }
+
+    private static final int[] NUMBERS = {Integer.MIN_VALUE, -1, 0, 1, 3, 40, 105, Integer.MAX_VALUE};
+
+    /** LANGUAGE.md 7: each call with each of these numbers, in objects of several states. */
+    private static void neverThrows() throws Exception {
+        for (Method m : PointMaker.class.getDeclaredMethods()) {
+            if (!Modifier.isPublic(m.getModifiers())) {
+                continue;
+            }
+            int all = (int) Math.pow(NUMBERS.length, m.getParameterCount());
+            for (int state = 0; state < 4; state++) {
+                PointMaker x = inState(state);
+                for (int i = 0; i < all; i++) {
+                    Object[] a = new Object[m.getParameterCount()];
+                    int rest = i;
+                    for (int j = 0; j < a.length; j++) {
+                        a[j] = NUMBERS[rest % NUMBERS.length];
+                        rest /= NUMBERS.length;
+                    }
+                    // An object is for 512 calls.
+                    x = i % 200 == 199 ? inState(state) : x;
+                    String thrown = "";
+                    try {
+                        m.invoke(x, a);
+                    } catch (java.lang.reflect.InvocationTargetException e) {
+                        thrown = e.getCause().toString();
+                    }
+                    Check.due(m.getName() + Arrays.toString(a) + " throws", thrown, "");
+                }
+            }
+        }
+    }
+
+    /** New; with POINTS; with too many of them; with all rows full. */
+    private static PointMaker inState(int state) {
+        Check c = new Check();
+        if (state == 1 || state == 2) {
+            c.text("block;set a a less 1;say b;if a 0 1;block;say c;stop;");
+            c.x.give(0, state == 1 ? 39 : 99);
+            c.x.keep(0);
+            c.x.sheet(1, 1, 3);
+        }
+        if (state == 3) {
+            c.text("block;" + "set f 9;".repeat(24) + "if f 0 7;" + "block;stop;".repeat(7));
+            c.x.sheet(1, 2, 40);
+        }
+        return c.x;
     }
 }

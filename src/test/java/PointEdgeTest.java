@@ -11,6 +11,7 @@ public final class PointEdgeTest {
         leftEnds();
         order();
         alike();
+        unknownAlike();
         noPoints();
         noMoreThanForty();
         shownText();
@@ -197,6 +198,19 @@ public final class PointEdgeTest {
         Check.due("rule(5)", c.x.rule(5), 4);
         c.x.wise(0);
         Check.due("rule(5)", c.x.rule(5), 5);
+    }
+
+    /** VALUES of UNKNOWN ones, GIVEN or not, tell no POINTS apart. */
+    private static void unknownAlike() {
+        Check c = Check.of("block;if f 1 2;block;set a f;goto 3;block;say 1;goto 3;block;say a;stop;");
+        c.x.give(0, 5);
+        Check.due("a is UNKNOWN", c.x.rule(2), 63);
+        for (int w = 1; w >= 0; w--) {
+            c.x.wise(w);
+            Check.due("rule(5), WISE " + w, c.x.rule(5), 4);
+            Check.due("p1", c.shown(1), "p1: set a f plus 0; goto p3;");
+            Check.due("p2", c.shown(2), "p2: say 1; goto p3;");
+        }
     }
 
     private static void noPoints() {

@@ -233,6 +233,21 @@ public final class ProgramEdgeTest {
         Check.due("no way there", aheadOf("block;stop;block;say a;goto 0;"), 0);
         PointMaker x = Check.of("block;stop;block;say a;goto 0;").x;
         Check.due("block(1, 6)", x.block(1, 6), 1);
+        // A way round, of the first two or the last two, does not keep what is no longer read on it.
+        for (int b = 0; b < 8; b += 6) {
+            int c = b + 1;
+            String two = "block;say a;goto " + c + ";block;say b;goto " + b + ";";
+            String six = "block;stop;".repeat(6);
+            PointMaker round = Check.of(b == 0 ? two + six : six + two).x;
+            Check.due("block(" + b + ", 6)", round.block(b, 6), 3);
+            Check.due("block(" + c + ", 6)", round.block(c, 6), 3);
+            round.alter(0, 2, 50);
+            Check.due("block(" + b + ", 6)", round.block(b, 6), 2);
+            Check.due("block(" + c + ", 6)", round.block(c, 6), 2);
+            round.alter(1, 2, 50);
+            Check.due("block(" + b + ", 6)", round.block(b, 6), 0);
+            Check.due("block(" + c + ", 6)", round.block(c, 6), 0);
+        }
         // What is GIVEN, UNKNOWN or WISE does not matter.
         x.give(0, 1);
         x.wise(0);
@@ -490,6 +505,19 @@ public final class ProgramEdgeTest {
             Check.due("block(" + b + ", " + w + ")", x.block(b, w), part[3]);
             Check.due("lead back", x.lead(b, w, part[2]), part[3]);
         }
+        // What was asked ahead follows at once: READ ahead, POINTS, what is SHOWN.
+        Check c = Check.of("block;if a 1 2;block;say b;stop;block;say c;stop;");
+        Check.due("block(0, 6)", c.x.block(0, 6), 7);
+        Check.due("p0", c.shown(0), "p0: if a p1 p2;");
+        c.x.lead(0, 4, 0);
+        Check.due("block(0, 6)", c.x.block(0, 6), 3);
+        Check.due("p0", c.shown(0), "p0: if a p1 p0;");
+        Check.due("rule(5)", c.x.rule(5), 2);
+        c.x.lead(0, 3, 2);
+        Check.due("p1", c.shown(1), "p1: say c; stop;");
+        c.x.lead(0, 5, 5);
+        Check.due("block(0, 6)", c.x.block(0, 6), 36);
+        Check.due("p0", c.shown(0), "p0: if f p1 p0;");
         // With all eight, 7 is one too.
         x = Check.takes("block;goto 0;" + "block;stop;".repeat(7), 8);
         Check.due("lead(0, 3, 8)", x.lead(0, 3, 8), -1);
@@ -585,6 +613,19 @@ public final class ProgramEdgeTest {
         Check.due("count(1)", x.count(1), 1);
         Check.due("count(0)", x.count(0), 1);
         Check.due("back(0) again", x.back(0), 2);
+        // What was asked ahead is asked anew: UNKNOWN, READ ahead, POINTS, what is SHOWN.
+        Check c = Check.of("block;say a;set b a;goto 1;block;stop;");
+        c.x.keep(1);
+        c.x.give(0, 9);
+        c.x.give(1, 9);
+        c.x.lead(0, 3, 0);
+        Check.due("rule(2)", c.x.rule(2), 60);
+        Check.due("rule(5)", c.x.rule(5), 1);
+        Check.due("p0", c.shown(0), "p0: say 9; goto p0;");
+        Check.due("back(1)", c.x.back(1), 2);
+        Check.due("rule(2)", c.x.rule(2), 63);
+        Check.due("rule(5)", c.x.rule(5), 2);
+        Check.due("p0", c.shown(0), "p0: say a; set b a plus 0; goto p1;");
         PointMaker none = new PointMaker();
         none.keep(1);
         Check.due("back(1) without BLOCKS", none.back(1), 0);

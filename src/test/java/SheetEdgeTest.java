@@ -1,3 +1,5 @@
+import java.util.Arrays;
+
 /** The edges of what the document says of SHEETS, of what is read of them, and of count: promises 25 to 29. */
 public final class SheetEdgeTest {
     private static final int LEAST = Integer.MIN_VALUE, MOST = Integer.MAX_VALUE;
@@ -100,6 +102,21 @@ public final class SheetEdgeTest {
         Check.due("read of 0, 0", x.read(1, 2, 0, 2), 2);
         Check.due("a begins with 0", x.begin(0, 0), 0);
         Check.due("b does not", x.begin(1, 0), 5);
+        // Each of the 40 CELLS, also the first and the last.
+        int[] cells = new int[40];
+        Arrays.fill(cells, 5);
+        for (int lane = 0; lane < 3; lane++) {
+            PointMaker y = laid(lane, cells);
+            Check.due("read of 5, 5", y.read(1, lane, 0, 20), 20);
+            Check.due("begin(5, 0)", y.begin(5, 0), 5);
+            Check.due("sheet(1, lane, 40)", y.sheet(1, lane, 40), 1);
+            y.begin(0, 7);
+            for (int f = 0; f < 39; f++) {
+                Check.due("read from " + f, y.read(1, lane, f, 1), 1);
+                Check.due("begin(0, 7)", y.begin(0, 7), 0);
+            }
+            Check.due("count(3)", y.count(3), 7);
+        }
         // Shorter, then longer again: CELLS 0.
         x.lay(1, 3, 77);
         x.sheet(1, 2, 2);

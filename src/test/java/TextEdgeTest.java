@@ -387,6 +387,22 @@ public final class TextEdgeTest {
         Check.refuses("block;set 1 a;", 10, 2);
         Check.refuses("block;if 1 0 0;", 9, 2);
         Check.refuses("block;goto a;", 11, 2);
+        // Each NAME with one letter changed, one less, one more.
+        String all = "block;set a b plus c;set a b less c;set a b same c;set a b more c;say a;if a 1 2;block;goto 2;"
+            + "block;stop;";
+        Check.takes(all, 3);
+        String[] names = {"block", "set", "plus", "less", "same", "more", "say", "if", "goto", "stop"};
+        for (String name : names) {
+            int at = all.indexOf(name);
+            String behind = all.substring(at + name.length());
+            for (int i = 0; i < name.length(); i++) {
+                String other = name.substring(0, i) + "z" + name.substring(i + 1);
+                Check.refuses(all.substring(0, at) + other + behind, at, 2);
+            }
+            Check.refuses(all.substring(0, at) + name.substring(1) + behind, at, 2);
+            Check.refuses(all.substring(0, at) + name.substring(0, name.length() - 1) + behind, at, 2);
+            Check.refuses(all.substring(0, at) + name + "z" + behind, at, 2);
+        }
         // The end, in each place where it can not stand; blanks ahead of it belong to the length.
         String[] cut = {"block", "block;", "block;set", "block;set a", "block;set a 1", "block;set a 1 plus",
             "block;set a 1 plus 2", "block;set a 1 plus 2;", "block;say", "block;say a", "block;say a;", "block;goto",
@@ -469,6 +485,19 @@ public final class TextEdgeTest {
             Check.due("keep(0)", c.x.keep(0), 0);
             Check.due("count(2)", c.x.count(2), 3);
         }
+        // What was asked of the one ahead is asked anew.
+        Check other = lived();
+        Check.due("rule(5)", other.x.rule(5), 2);
+        Check.due("p0", other.shown(0), "p0: say 5; goto p1;");
+        Check.due("block(0, 6)", other.x.block(0, 6), 2);
+        other.taken("block;say c;stop;", 1);
+        Check.due("rule(2)", other.x.rule(2), 63);
+        Check.due("rule(5)", other.x.rule(5), 1);
+        Check.due("p0", other.shown(0), "p0: say c; stop;");
+        Check.due("block(0, 6)", other.x.block(0, 6), 4);
+        other.taken("", 0);
+        Check.due("rule(5)", other.x.rule(5), 0);
+        Check.due("point(0, 0)", other.x.point(0, 0), -1);
         // A text that is not taken leaves each of these.
         Check c = lived();
         c.refused("block;stop", 10, 2);
