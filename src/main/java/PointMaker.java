@@ -615,9 +615,13 @@ public final class PointMaker {
             if (places >= first.length) {
                 return false;
             }
+            first[places] = steps;
+            many[places] = 0;
+            ending[places] = STOP;
+            one[places] = NONE;
+            two[places] = NONE;
+            asked[places] = NONE;
             places++;
-            close(places - 1, STOP, NONE, NONE, NONE);
-            startSteps(places - 1);
             return true;
         }
 
@@ -779,7 +783,7 @@ public final class PointMaker {
                 return false;
             }
             for (int i = 0; i <= MAX_BLOCKS && sort != FINISH; i++) {
-                if (!takesBlock()) {
+                if (!takesHead() || !takesSteps() || !takesEnd() || !takesSemicolon()) {
                     return false;
                 }
             }
@@ -870,27 +874,29 @@ public final class PointMaker {
         }
 
         private int takeBlockNumber() {
-            if (sort == NUMBER && number >= MAX_BLOCKS) {
-                refuse(OUT_OF_BOUNDS, start);
+            int to = number;
+            if (sort != NUMBER || to >= MAX_BLOCKS) {
+                refuse(sort != NUMBER ? MISPLACED : OUT_OF_BOUNDS, start);
                 return NONE;
             }
-            return take(sort == NUMBER ? number : NONE);
+            return advance() ? to : NONE;
         }
 
         private boolean takesSemicolon() {
             return take(sort == SEMICOLON ? 0 : NONE) >= 0;
         }
 
-        private boolean takesBlock() {
+        private boolean takesHead() {
             if (!isWord("block")) {
                 return refuse(MISPLACED, start);
             }
             if (!draft.open()) {
                 return refuse(TOO_MANY, start);
             }
-            if (!advance() || !takesSemicolon()) {
-                return false;
-            }
+            return advance() && takesSemicolon();
+        }
+
+        private boolean takesSteps() {
             for (int i = 0; i <= MAX_STEPS && (isWord("set") || isWord("say")); i++) {
                 if (draft.steps >= MAX_STEPS) {
                     return refuse(TOO_MANY, start);
@@ -900,7 +906,7 @@ public final class PointMaker {
                     return false;
                 }
             }
-            return takesEnd() && takesSemicolon();
+            return true;
         }
 
         private boolean takesSet() {
@@ -1061,7 +1067,8 @@ public final class PointMaker {
             }
             meet(program, 0, NONE);
             for (int k = 0; k < MAX_POINTS && k < web.places && !tooMany; k++) {
-                specialise(program, k);
+                specialise(program.web, k);
+                leadOn(program, k);
             }
             if (tooMany) {
                 web.clear();
@@ -1113,20 +1120,20 @@ public final class PointMaker {
             return NONE;
         }
 
-        private void specialise(Program program, int k) {
+        /** What is LEFT of the STEPS of a POINT; now has the VALUES behind them. */
+        private void specialise(Web blocks, int k) {
             for (int v = 0; v < VARIABLES; v++) {
                 now[v] = values[k * VARIABLES + v];
             }
             int b = blockOf[k];
-            if (!program.web.isPlace(b)) {
+            if (!blocks.isPlace(b)) {
                 return;
             }
             web.startSteps(k);
-            int behind = program.web.first[b] + program.web.many[b];
-            for (int i = program.web.first[b]; i < behind; i++) {
-                doOrLeave(program.web, k, i);
+            int behind = blocks.first[b] + blocks.many[b];
+            for (int i = blocks.first[b]; i < behind; i++) {
+                doOrLeave(blocks, k, i);
             }
-            leadOn(program, k, b);
         }
 
         private void doOrLeave(Web from, int k, int i) {
@@ -1148,7 +1155,11 @@ public final class PointMaker {
             return v < 0 || hasBit(division.unknown, v) ? operand : now[v];
         }
 
-        private void leadOn(Program program, int k, int b) {
+        private void leadOn(Program program, int k) {
+            int b = blockOf[k];
+            if (!program.web.isPlace(b)) {
+                return;
+            }
             int how = program.web.ending[b];
             int toOne = program.web.one[b];
             int toTwo = program.web.two[b];
