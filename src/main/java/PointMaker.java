@@ -424,6 +424,7 @@ public final class PointMaker {
     /** What follows from the program is found anew only when a call asks for it behind a change. */
     private void refresh() {
         if (stale) {
+            points.division.find(program);
             points.find(program);
             writtenPoint = NONE;
             stale = false;
@@ -1055,8 +1056,8 @@ public final class PointMaker {
         private final int[] now = new int[VARIABLES];
         private final int[] sought = new int[VARIABLES];
 
+        /** Behind division.find(), on which it leans. */
         void find(Program program) {
-            division.find(program);
             web.clear();
             tooMany = false;
             if (program.web.places == 0) {
